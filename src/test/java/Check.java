@@ -1,0 +1,66 @@
+/** Counts the answers that are not due; each test ends with end(). */
+final class Check {
+    private static int asked = 0;
+    private static int wrong = 0;
+
+    private Check() {
+    }
+
+    static void due(String call, long got, long want) {
+        asked++;
+        if (got != want) {
+            wrong++;
+            System.out.println(call + " answered " + got + ", due is " + want);
+        }
+    }
+
+    static void holds(String claim, boolean truth) {
+        due(claim, truth ? 1 : 0, 1);
+    }
+
+    static boolean anyWrong() {
+        return wrong > 0;
+    }
+
+    static void end() {
+        System.out.println(asked + " answers, " + wrong + " of them not as due");
+        if (wrong > 0 || asked == 0) {
+            System.exit(1);
+        }
+    }
+
+    /** A queue of dry people with a patience of 999 and 100 coins, with umbrellas of these widths. */
+    static UmbrellaQueue queue(int... widths) {
+        UmbrellaQueue queue = new UmbrellaQueue();
+        for (int width : widths) {
+            queue.come(999, 100, width);
+        }
+        return queue;
+    }
+
+    static void type(UmbrellaQueue queue, String text) {
+        queue.clearText();
+        for (int i = 0; i < text.length(); i++) {
+            queue.type(text.charAt(i));
+        }
+    }
+
+    static int perform(UmbrellaQueue queue, String text) {
+        type(queue, text);
+        return queue.perform();
+    }
+
+    /** All that is told of the state and the depth of the history, in one text. */
+    static String told(UmbrellaQueue queue) {
+        StringBuilder all = new StringBuilder();
+        for (int what = 0; what <= 16; what++) {
+            all.append(queue.count(what)).append(' ');
+        }
+        for (int place = 0; place < queue.count(0); place++) {
+            for (int what = 0; what <= 8; what++) {
+                all.append(queue.person(place, what)).append(' ');
+            }
+        }
+        return all.toString();
+    }
+}
