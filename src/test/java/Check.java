@@ -50,10 +50,10 @@ final class Check {
         return queue.perform();
     }
 
-    /** All that is told of the state and the depth of the history, in one text. */
+    /** All that is told of the state, in one text. */
     static String told(UmbrellaQueue queue) {
         StringBuilder all = new StringBuilder();
-        for (int what = 0; what <= 16; what++) {
+        for (int what = 0; what <= 15; what++) {
             all.append(queue.count(what)).append(' ');
         }
         for (int place = 0; place < queue.count(0); place++) {

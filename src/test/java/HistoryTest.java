@@ -16,6 +16,7 @@ public final class HistoryTest {
             x.come(100, 0, 0);
             Check.due("14: states", x.count(16), Math.min(4, people));
         }
+        x.leave(9);
         for (int left = 3; left >= 0; left--) {
             Check.due("14: undo()", x.undo(), left);
             Check.due("14: people", x.count(0), 2 + left);
@@ -67,9 +68,8 @@ public final class HistoryTest {
     private static void promise14EachAct() {
         for (int act = 0; act < 10; act++) {
             UmbrellaQueue x = Check.queue(1, 3, 0);
-            x.gust(80, 0);
             x.keep();
-            x.undo();
+            x.set(2, 6);
             Check.type(x, "g9");
             String before = Check.told(x);
             int answer = act(x, act);

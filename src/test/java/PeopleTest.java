@@ -3,6 +3,7 @@ public final class PeopleTest {
     public static void main(String[] args) {
         promise01NewObject();
         promise02Come();
+        promise02ComeToWhereOthersStood();
         promise03Leave();
         promise04LetAhead();
         promise05Swap();
@@ -58,6 +59,22 @@ public final class PeopleTest {
         twoHundredCome();
     }
 
+    private static void promise02ComeToWhereOthersStood() {
+        UmbrellaQueue x = new UmbrellaQueue();
+        for (int i = 0; i < 15; i++) {
+            x.come(999, 9, 1);
+        }
+        x.come(999, 9, 2);
+        x.swap(14);
+        x.gust(10, 0);
+        x.leave(15);
+        x.come(50, 1, 0);
+        int[] due = {16, 0, 50, 1, 0, -5, -5, 0, 0};
+        for (int what = 0; what <= 8; what++) {
+            Check.due("2: person(15, " + what + ")", x.person(15, what), due[what]);
+        }
+    }
+
     private static void twoHundredCome() {
         UmbrellaQueue x = new UmbrellaQueue();
         for (int number = 0; number < 200; number++) {
@@ -95,6 +112,13 @@ public final class PeopleTest {
         Check.due("3: leave(0)", x.leave(0), -1);
         Check.due("3: count(2)", x.count(2), 4);
         Check.due("3: those too wet are others", x.count(3), 0);
+        UmbrellaQueue y = Check.queue(0, 1, 2);
+        y.swap(1);
+        y.leave(0);
+        Check.due("3: swaps come along", y.person(0, 8) * 10 + y.person(1, 8), 11);
+        y.leave(0);
+        y.come(100, 0, 0);
+        Check.due("3: swaps come along", y.person(0, 8) * 10 + y.person(1, 8), 10);
     }
 
     private static void promise04LetAhead() {
@@ -102,28 +126,29 @@ public final class PeopleTest {
         x.come(100, 1, 0);
         x.come(200, 2, 5);
         x.come(300, 3, 1);
-        x.swap(1);
+        x.come(400, 4, 2);
+        x.swap(2);
         Check.due("4: letAhead(1)", x.letAhead(1), 2);
-        int[] ahead = {2, 0, 300, 3, 5};
-        int[] behind = {1, 0, 200, 2, 1};
+        int[] ahead = {2, 0, 300, 3, 2};
+        int[] behind = {1, 0, 200, 2, 5};
         for (int what = 0; what < 5; what++) {
             Check.due("4: person(1, " + what + ")", x.person(1, what), ahead[what]);
             Check.due("4: person(2, " + what + ")", x.person(2, what), behind[what]);
         }
         Check.due("4: swaps come along", x.person(1, 8), 1);
-        x.gust(20, 0);
-        x.leave(1);
-        x.gust(20, 0);
-        Check.due("4: wetness of 0", x.person(0, 1), 30);
-        Check.due("4: letAhead(0)", x.letAhead(0), 1);
-        Check.due("4: wetness comes along", x.person(1, 1), 30);
-        Check.due("4: letAhead(1)", x.letAhead(1), -1);
-        Check.due("4: letAhead(2)", x.letAhead(2), -1);
-        Check.due("4: letAhead(-1)", x.letAhead(-1), -1);
-        Check.due("4: letAhead(MAX)", x.letAhead(Integer.MAX_VALUE), -1);
+        Check.due("4: swaps come along", x.person(2, 8), 0);
         Check.due("4: it is no swap", x.count(7), 1);
-        x.undo();
-        Check.due("4: it is an act", x.person(0, 0), 0);
+        UmbrellaQueue y = Check.queue(0, 1);
+        y.gust(20, 0);
+        Check.due("4: letAhead(0)", y.letAhead(0), 1);
+        Check.due("4: wetness comes along", y.person(1, 1), 30);
+        Check.due("4: wetness comes along", y.person(0, 1), 0);
+        Check.due("4: letAhead(1)", y.letAhead(1), -1);
+        Check.due("4: letAhead(2)", y.letAhead(2), -1);
+        Check.due("4: letAhead(-1)", y.letAhead(-1), -1);
+        Check.due("4: letAhead(MAX)", y.letAhead(Integer.MAX_VALUE), -1);
+        Check.due("4: it is an act", y.undo(), 3);
+        Check.due("4: undone", y.person(0, 0), 0);
     }
 
     private static void promise05Swap() {

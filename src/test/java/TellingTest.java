@@ -79,6 +79,13 @@ public final class TellingTest {
         Check.due("18: placeOf(-1)", x.placeOf(-1), -2);
         x.leave(2);
         Check.due("18: placeOf(3)", x.placeOf(3), -5);
+        x.leave(1);
+        Check.due("18: placeOf(0)", x.placeOf(0), -5);
+        UmbrellaQueue full = Check.queue(0, 0, 0, 0, 0, 0, 0, 0, 0, 0, 0, 0, 0, 0, 0, 0);
+        Check.due("18: placeOf(15)", full.placeOf(15), 15);
+        Check.due("18: placeOf(16)", full.placeOf(16), -5);
+        full.leave(15);
+        Check.due("18: placeOf(15)", full.placeOf(15), -5);
     }
 
     private static void promise19IfGust() {
@@ -168,6 +175,10 @@ public final class TellingTest {
         Check.due("21: straight", Check.queue(0, 1, 2).bestSwap(1, 0), 1);
         Check.due("21: from ahead", Check.queue(0, 1, 2).bestSwap(1, 1), 1);
         Check.due("21: from behind nobody gets wet", Check.queue(0, 1, 2).bestSwap(1, 2), -5);
+        UmbrellaQueue full = Check.queue(1, 2, 1, 2, 1, 2, 1, 2, 1, 2, 1, 2, 1, 0, 2, 3);
+        Check.due("21: sixteen people", full.bestSwap(1, 0), -5);
+        UmbrellaQueue last = Check.queue(1, 1, 1, 1, 1, 1, 1, 1, 1, 1, 1, 1, 1, 0, 1, 2);
+        Check.due("21: sixteen people, the last ones", last.bestSwap(1, 0), 14);
         bestSwapOfPeopleWhoWouldLeave();
         bestSwapOfPeopleWhoGetNoWetter();
     }
@@ -278,6 +289,12 @@ public final class TellingTest {
         for (int what = 0; what < due.length; what++) {
             Check.due("24: count(" + what + ")", x.count(what), due[what]);
         }
+        UmbrellaQueue full = Check.queue(1, 2, 1, 2, 1, 2, 1, 2, 1, 2, 1, 2, 1, 0, 1, 0);
+        Check.due("24: the first of sixteen dry ones", full.count(11), 0);
+        Check.due("24: bare places of sixteen", full.count(12), 2);
+        full.gust(1, 0);
+        Check.due("24: the wettest of sixteen", full.count(11), 13);
+        Check.due("24: the wetness of sixteen", full.count(10), 2);
         UmbrellaQueue y = Check.queue(0, 0, 0, 2, 0);
         Check.due("24: places that no umbrella reaches", y.count(12), 3);
         y.gust(1, 0);

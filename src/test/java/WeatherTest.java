@@ -65,6 +65,12 @@ public final class WeatherTest {
         UmbrellaQueue y = Check.queue(5, 1, 2);
         y.gust(99, 2);
         dueWetness("7: at the ends", y, 98, 0, 49);
+        UmbrellaQueue full = Check.queue(1, 1, 0, 0, 0, 0, 0, 0, 0, 0, 0, 0, 0, 0, 0, 3);
+        full.gust(4, 0);
+        dueWetness("7: sixteen people", full, 2, 2, 6, 4, 4, 4, 4, 4, 4, 4, 4, 4, 4, 6, 0, 0);
+        full.leave(15);
+        full.gust(4, 1);
+        dueWetness("7: without the last one", full, 4, 4, 8, 8, 8, 8, 8, 8, 8, 8, 8, 8, 8, 10, 4);
     }
 
     private static void promise07WhoAreTooWetLeave() {
@@ -172,9 +178,15 @@ public final class WeatherTest {
         Check.due("9: count(4)", x.count(4), 4);
         Check.due("9: count(5)", x.count(5), 24);
         Check.due("9: count(6)", x.count(6), 2);
+        x.come(100, 1, 0);
+        Check.due("9: too few coins", x.serve(), 1);
+        Check.due("9: count(6) adds up", x.count(6), 9);
+        Check.due("9: count(5) adds up", x.count(5), 25);
+        x.undo();
+        x.undo();
         Check.due("9: they left by being served alone", x.count(2) + x.count(3), 0);
         Check.due("9: serve()", x.serve(), -5);
-        Check.due("9: undo()", x.undo(), 3);
+        Check.due("9: undo()", x.undo(), 1);
         Check.due("9: undone", x.count(0), 2);
         Check.due("9: undone", x.count(4), 2);
         Check.due("9: undone", x.count(5), 10);
