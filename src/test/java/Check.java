@@ -38,6 +38,36 @@ final class Check {
         return queue;
     }
 
+    /** Sixteen people, dry, of a patience of 999, 100 coins and umbrellas of the width 1. */
+    static UmbrellaQueue fullQueue() {
+        return queue(1, 1, 1, 1, 1, 1, 1, 1, 1, 1, 1, 1, 1, 1, 1, 1);
+    }
+
+    /** A queue that is empty, to which 200 people came; its history holds four states. */
+    static UmbrellaQueue queueWhereAllCame() {
+        UmbrellaQueue queue = new UmbrellaQueue();
+        for (int i = 0; i < 200; i++) {
+            queue.come(100, 0, 1);
+            queue.leave(0);
+        }
+        return queue;
+    }
+
+    /** Lets so many minutes pass, up to 99999; the text is empty behind that. */
+    static void passMinutes(UmbrellaQueue queue, int minutes) {
+        int left = minutes;
+        type(queue, ".99;.99;.99;.99;.99;.99;.99;.99;.99;.99;.99;.99;.99;.99;.99");
+        while (left >= 15 * 99) {
+            queue.perform();
+            left -= 15 * 99;
+        }
+        while (left > 0) {
+            queue.pass(Math.min(99, left));
+            left -= Math.min(99, left);
+        }
+        queue.clearText();
+    }
+
     static void type(UmbrellaQueue queue, String text) {
         queue.clearText();
         for (int i = 0; i < text.length(); i++) {
