@@ -24,6 +24,7 @@ public final class FaceTest {
         face();
         constants();
         membersThatAreNotPublic();
+        sizes();
         words();
         Check.end();
     }
@@ -84,6 +85,26 @@ public final class FaceTest {
             for (Method method : inside.getDeclaredMethods()) {
                 Check.holds(method + " has a name of its own", !face.contains(method.getName()));
             }
+        }
+    }
+
+    private static void sizes() {
+        Class<?>[] inside = UmbrellaQueue.class.getDeclaredClasses();
+        Check.holds("at most twelve classes", inside.length < 12);
+        sizesOf(UmbrellaQueue.class);
+        for (Class<?> one : inside) {
+            sizesOf(one);
+        }
+    }
+
+    private static void sizesOf(Class<?> one) {
+        int fields = 0;
+        for (Field field : one.getDeclaredFields()) {
+            fields += Modifier.isStatic(field.getModifiers()) ? 0 : 1;
+        }
+        Check.holds(one + " has " + fields + " fields", fields <= 20);
+        for (Method method : one.getDeclaredMethods()) {
+            Check.holds(method + " takes at most seven", method.getParameterCount() <= 7);
         }
     }
 
