@@ -2,8 +2,26 @@
 final class Check {
     private static int asked = 0;
     private static int wrong = 0;
+    private static final long MOST_MILLISECONDS = 300_000;
+
+    static {
+        // A call that never ends must fail the test, not keep CI waiting.
+        Thread watch = new Thread(Check::endLate);
+        watch.setDaemon(true);
+        watch.start();
+    }
 
     private Check() {
+    }
+
+    private static void endLate() {
+        try {
+            Thread.sleep(MOST_MILLISECONDS);
+        } catch (InterruptedException interrupted) {
+            return;
+        }
+        System.out.println("a call does not end");
+        Runtime.getRuntime().halt(1);
     }
 
     static void due(String call, long got, long want) {

@@ -372,8 +372,8 @@ public final class PeopleBoundsTest {
         if (width > 0) {
             x.come(999, 0, 1);
         }
-        while (x.person(0, 1) < wetness) {
-            int more = Math.min(49, wetness - x.person(0, 1));
+        for (int left = wetness; left > 0; left -= 49) {
+            int more = Math.min(49, left);
             x.gust(width > 0 ? more * 2 : more, 0);
         }
         if (width > 0) {
